@@ -23,12 +23,12 @@ final class BillTest {
         Checks.end();
     }
 
-    private static long numbers(int limit, int low, int high, int base, int sewage) {
+    static long numbers(int limit, int low, int high, int base, int sewage) {
         return limit | (long) low << 10 | (long) high << 20 | (long) base << 30 | (long) sewage << 40;
     }
 
     /** A customer that uses so many units in so many days, from day 0 on; today is their end. */
-    private static WaterWorks used(int units, int days) {
+    static WaterWorks used(int units, int days) {
         WaterWorks x = MeterTest.withCustomers(1);
         x.install(0, 4, 9000);
         x.pass(days);

@@ -301,7 +301,7 @@ final class NetTest {
         Checks.is("01", () -> allFed(x, 2));
     }
 
-    private static String allFed(WaterWorks x, int customers) {
+    static String allFed(WaterWorks x, int customers) {
         StringBuilder all = new StringBuilder();
         for (int i = 0; i < customers; i++) {
             all.append(x.fed(i) ? '1' : '0');

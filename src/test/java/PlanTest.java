@@ -28,7 +28,7 @@ final class PlanTest {
         return x;
     }
 
-    private static String plan(WaterWorks x, int pipe) {
+    static String plan(WaterWorks x, int pipe) {
         StringBuilder all = new StringBuilder();
         for (int i = 0; i < 34 && x.plan(pipe, i) != WaterWorks.NONE; i++) {
             all.append(x.plan(pipe, i)).append(' ');
